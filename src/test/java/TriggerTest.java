@@ -15,6 +15,7 @@ public final class TriggerTest {
         givesItsNumberAfterAll();
         triggersFireTriggers();
         raiseInTrigger();
+        nothingStaysOfATrigger();
         CHECK.finish();
     }
 
@@ -213,5 +214,37 @@ public final class TriggerTest {
         CHECK.told("raised in a trigger", base, 9, 6, 2, 1, 1);
         CHECK.table("taken back", base, 0, new int[] {7, 8, 9});
         CHECK.due("the trigger stays", base.unbind(0, 0), true);
+    }
+
+    /** A run in the same depth as a trigger before it has none of its rows, and gives its own value. */
+    private static void nothingStaysOfATrigger() {
+        TriggerBase base = withProcedures();
+        Check.define(base, Words.OLD, 0, Words.PUSH, 10, Words.MULTIPLY, Words.NEW, 0, Words.ADD,
+                Words.PUSH, 300, Words.ADD, Words.RETURN);
+        Check.define(base, Words.PUSH, 0, Words.PUSH, 6, Words.UPDATE, 0, 0, Words.DROP,
+                Words.PUSH, 0, Words.CALL, 4, Words.RETURN);
+        base.call(0, 0, 100);
+        base.bind(0, 2, 3);
+        CHECK.due("update, then a call", base.call(5, 0, 100), 0);
+        CHECK.told("update, then a call", base, 300, 4 + 16 + 3 + 8, 2, 1, 3);
+        base.unbind(0, 2);
+        CHECK.due("a call without a trigger", base.call(4, 0, 100), 0);
+        CHECK.due("OLD and NEW are 0", base.value(), 300);
+        insertAfterUpdateHasNoOld(base);
+    }
+
+    private static void insertAfterUpdateHasNoOld(TriggerBase base) {
+        base.bind(0, 0, 3);
+        base.call(2, 0, 100);
+        CHECK.due("insert after update", base.call(0, 0, 100), 0);
+        CHECK.due("OLD of an insert", base.cell(1, 2, 0), 0);
+        CHECK.due("NEW of an insert", base.cell(1, 2, 1), 7);
+        base.bind(0, 1, 3);
+        CHECK.due("delete after insert", base.call(1, 0, 100), 0);
+        CHECK.due("OLD of a delete", base.cell(1, 4, 0), 6);
+        CHECK.due("NEW of a delete", base.cell(1, 4, 1), 0);
+        CHECK.due("insert after delete", base.call(0, 0, 100), 0);
+        CHECK.due("OLD of an insert", base.cell(1, 6, 0), 0);
+        CHECK.due("NEW of an insert", base.cell(1, 6, 1), 7);
     }
 }

@@ -24,6 +24,7 @@ public final class VerifyTest {
         otherHeights();
         behindTheWords();
         leastPlaceFirst();
+        manyInstructions();
         CHECK.finish();
     }
 
@@ -124,6 +125,9 @@ public final class VerifyTest {
             ends(0, 0, 1, 26, word, 0);
             ends(0, 0, 1, 26, word, 3);
         }
+        ends(at(0, 4), 14, 1);
+        ends(at(0, 4), 14, 2);
+        ends(at(0, 4), 15, -1, 26);
         ends(at(1, 4), 1, 14, 99, 14, 98);
         ends(at(3, 4), 1, 14, 0, 14, 98);
     }
@@ -241,5 +245,16 @@ public final class VerifyTest {
         ends(at(8, 7), 0, 0, 15, 8, 0, 1, 14, 10, 14, 10, 26);
         // A branch goes on behind itself first: rule 8 there counts before rule 7 at its place.
         ends(at(4, 8), 0, 1, 0, 1, 15, 0);
+    }
+
+    /** Sixty words hold 59 instructions at most: the first one of a procedure that goes on has an operand. */
+    private static void manyInstructions() {
+        int[] words = new int[60];
+        Arrays.fill(words, 2, 60, 11);
+        ends(at(59, 8), words);
+        words[59] = 4;
+        ends(at(59, 5), words);
+        words[59] = 26;
+        ends(0, words);
     }
 }
