@@ -188,7 +188,8 @@ public final class CallTest {
 
     private static void toldAnew() {
         TriggerBase base = new TriggerBase();
-        Check.define(base, Words.PUSH, 1, Words.COPY, Words.COPY, Words.INSERT, 0, Words.DROP, Words.PUSH, 9, Words.RETURN);
+        Check.define(base, Words.PUSH, 1, Words.COPY, Words.COPY, Words.INSERT, 0, Words.DROP,
+                Words.PUSH, 9, Words.RETURN);
         Check.define(base, Words.PUSH, 2, Words.RETURN);
         base.bind(0, 0, 1);
         base.call(0, 0, 100);

@@ -194,7 +194,8 @@ public final class InstructionTest {
         CHECK.table("updated", base, 2, new int[] {10, 11, 12}, new int[] {20, 99, 22});
         CHECK.due("update to the same", ask(base, 1, 1), 1);
         CHECK.told("update to the same", base, 1, 4, 1, 0, 1);
-        Check.define(base, Words.PUSH, 5, Words.LOAD, 0, Words.PUSH, 9, Words.UPDATE, 2, 0, Words.SUBTRACT, Words.RETURN);
+        Check.define(base, Words.PUSH, 5, Words.LOAD, 0, Words.PUSH, 9, Words.UPDATE, 2, 0, Words.SUBTRACT,
+                Words.RETURN);
         CHECK.due("update none gives 0", ask(base, 2, 2), 5);
         for (int none : new int[] {2, -1, 16, MIN, MAX}) {
             CHECK.due("update none", ask(base, 1, none), 0);
@@ -223,10 +224,11 @@ public final class InstructionTest {
     /** A run may end with numbers left on its stack: the next one starts without them. */
     private static void stackIsNewInEachRun() {
         TriggerBase base = new TriggerBase();
-        CHECK.due("twelve numbers", Check.define(base, Words.PUSH, 1, Words.COPY, Words.COPY, Words.COPY, Words.COPY,
-                Words.COPY, Words.COPY, Words.COPY, Words.COPY, Words.COPY, Words.COPY, Words.LOAD, 0, Words.RETURN), 0);
-        CHECK.due("calls it", Check.define(base, Words.PUSH, 6, Words.LOAD, 0, Words.CALL, 0, Words.LOAD, 0, Words.CALL, 0,
-                Words.ADD, Words.ADD, Words.RETURN), 0);
+        CHECK.due("twelve numbers", Check.define(base, Words.PUSH, 1,
+                Words.COPY, Words.COPY, Words.COPY, Words.COPY, Words.COPY,
+                Words.COPY, Words.COPY, Words.COPY, Words.COPY, Words.COPY, Words.LOAD, 0, Words.RETURN), 0);
+        CHECK.due("calls it", Check.define(base, Words.PUSH, 6, Words.LOAD, 0, Words.CALL, 0,
+                Words.LOAD, 0, Words.CALL, 0, Words.ADD, Words.ADD, Words.RETURN), 0);
         for (int i = 0; i < 4; i++) {
             CHECK.due("twelve numbers", ask(base, 0, i), i);
             CHECK.due("calls it", ask(base, 1, i), 6 + 2 * i);

@@ -18,12 +18,14 @@ final class Model {
         }
     }
 
-    private static final int[] TAKES = {0, 1, 1, 2, 2, 2, 2, 2, 2, 2, 2, 1, 0, 1, 0, 1, 0, 1, 3, 1, 2, 2, 0, 0, 1, 1, 1};
-    private static final int[] GIVES = {1, 0, 2, 2, 1, 1, 1, 1, 1, 1, 1, 1, 1, 0, 0, 0, 1, 1, 1, 1, 1, 1, 1, 1, 1, 0, 0};
+    private static final int[] TAKES = {
+        0, 1, 1, 2, 2, 2, 2, 2, 2, 2, 2, 1, 0, 1, 0, 1, 0, 1, 3, 1, 2, 2, 0, 0, 1, 1, 1};
+    private static final int[] GIVES = {
+        1, 0, 2, 2, 1, 1, 1, 1, 1, 1, 1, 1, 1, 0, 0, 0, 1, 1, 1, 1, 1, 1, 1, 1, 1, 0, 0};
     /** A letter an operand: number, local, place, table, column, procedure. */
     private static final String[] OPERANDS = {
-        "n", "", "", "", "", "", "", "", "", "", "", "", "l", "l", "p", "p", "t", "tc", "t", "t", "tc", "tc", "c", "c", "q",
-        "", ""};
+        "n", "", "", "", "", "", "", "", "", "", "", "", "l", "l", "p", "p",
+        "t", "tc", "t", "t", "tc", "tc", "c", "c", "q", "", ""};
 
     private List<List<int[]>> tables = new ArrayList<>();
     private final List<int[]> procedures = new ArrayList<>();

@@ -5,9 +5,17 @@ import java.util.Random;
 
 /** All promises: many runs of calls, always the same, in which the class and the model must answer alike. */
 public final class ModelTest {
-    private static final int RUNS = 4000;
+    private static final int RUNS = 6000;
     private static final int CALLS = 512;
+    /** Kept back for the last procedure that is defined, and for a look at every cell at last. */
+    private static final int LAST_CALLS = 90 + 4 * 16 * 3;
     private static final Check CHECK = new Check("ModelTest");
+    private static final int[] ENDINGS = new int[7];
+    private static final int[] RULES = new int[9];
+    private static final int[] TAKES = {
+        0, 1, 1, 2, 2, 2, 2, 2, 2, 2, 2, 1, 0, 1, 0, 1, 0, 1, 3, 1, 2, 2, 0, 0, 1, 1, 1};
+    private static final int[] CHANGES = {
+        1, -1, 1, 0, -1, -1, -1, -1, -1, -1, -1, 0, 1, -1, 0, -1, 1, 0, -2, 0, -1, -1, 1, 1, 0, -1, -1};
 
     private final Random random;
     private final String run;
@@ -19,9 +27,6 @@ public final class ModelTest {
         random = new Random(seed);
         run = "run " + seed + ", call ";
     }
-
-    private static final int[] ENDINGS = new int[7];
-    private static final int[] RULES = new int[9];
 
     public static void main(String[] args) {
         for (int seed = 0; seed < RUNS; seed++) {
@@ -40,7 +45,7 @@ public final class ModelTest {
 
     private void play() {
         define();
-        while (calls < CALLS - 70) {
+        while (calls < CALLS - LAST_CALLS) {
             int what = random.nextInt(20);
             if (what < 3 || model.procedures() == 0) {
                 define();
@@ -51,6 +56,7 @@ public final class ModelTest {
             }
         }
         lookAtTables();
+        CHECK.due(run + "at most 512 calls", calls <= CALLS, true);
     }
 
     private void same(String what, int got, int want) {
@@ -91,10 +97,6 @@ public final class ModelTest {
         }
         return words;
     }
-
-    private static final int[] TAKES = {0, 1, 1, 2, 2, 2, 2, 2, 2, 2, 2, 1, 0, 1, 0, 1, 0, 1, 3, 1, 2, 2, 0, 0, 1, 1, 1};
-    private static final int[] CHANGES = {1, -1, 1, 0, -1, -1, -1, -1, -1, -1, -1, 0, 1, -1, 0, -1, 1, 0, -2, 0, -1, -1, 1,
-        1, 0, -1, -1};
 
     /** Words whose heights fit, with places of fitting height; now and then one of them is changed. */
     private List<Integer> likelyWords() {
@@ -163,6 +165,11 @@ public final class ModelTest {
         }
     }
 
+    private int procedure() {
+        boolean perhapsNone = random.nextInt(14) == 0;
+        return perhapsNone ? random.nextInt(16) - 2 : random.nextInt(Math.max(1, model.procedures()));
+    }
+
     private int table() {
         return random.nextInt(3) == 0 ? random.nextInt(4) : 0;
     }
@@ -191,7 +198,7 @@ public final class ModelTest {
     private void bindOrUnbind() {
         int table = random.nextInt(12) == 0 ? random.nextInt(7) - 2 : table();
         int event = random.nextInt(12) == 0 ? random.nextInt(6) - 2 : random.nextInt(3);
-        int procedure = random.nextInt(12) == 0 ? random.nextInt(16) - 2 : random.nextInt(Math.max(1, model.procedures()));
+        int procedure = procedure();
         if (random.nextInt(3) > 0) {
             same("bind", base.bind(table, event, procedure), model.bind(table, event, procedure));
         } else {
@@ -200,7 +207,7 @@ public final class ModelTest {
     }
 
     private void callAndLook() {
-        int procedure = random.nextInt(15) == 0 ? random.nextInt(16) - 2 : random.nextInt(Math.max(1, model.procedures()));
+        int procedure = procedure();
         int argument = number();
         int fuel = random.nextInt(4) == 0 ? random.nextInt(60) - 3 : random.nextInt(2300);
         int ending = model.call(procedure, argument, fuel);
@@ -223,7 +230,6 @@ public final class ModelTest {
         }
     }
 
-    /** More looks than an object's calls would allow, were they not free of side effects. */
     private void lookAtTables() {
         for (int table = 0; table < 4; table++) {
             for (int row = 0; row < 16; row++) {

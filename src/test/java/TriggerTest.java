@@ -70,7 +70,8 @@ public final class TriggerTest {
      */
     private static TriggerBase withProcedures() {
         TriggerBase base = new TriggerBase();
-        CHECK.due("0", Check.define(base, Words.PUSH, 7, Words.PUSH, 8, Words.PUSH, 9, Words.INSERT, 0, Words.RETURN), 0);
+        CHECK.due("0", Check.define(base,
+                Words.PUSH, 7, Words.PUSH, 8, Words.PUSH, 9, Words.INSERT, 0, Words.RETURN), 0);
         CHECK.due("1", Check.define(base, Words.LOAD, 0, Words.DELETE, 0, Words.RETURN), 0);
         CHECK.due("2", Check.define(base,
                 Words.LOAD, 0, Words.LOAD, 0, Words.UPDATE, 0, 1, Words.RETURN), 0);
