@@ -1,6 +1,7 @@
 /** Collects answers that are not the ones that are due, and ends the test with them. */
 final class Check {
     private final String test;
+    private String sentence = "";
     private int looked = 0;
     private int wrong = 0;
 
@@ -8,11 +9,16 @@ final class Check {
         this.test = test;
     }
 
+    /** Names the document's sentence that the answers from here on belong to. */
+    void sentence(String where, String words) {
+        sentence = where + ", \"" + words + "\": ";
+    }
+
     void due(String what, long got, long want) {
         looked++;
         if (got != want) {
             wrong++;
-            System.out.println(test + ": " + what + " answered " + got + ", due is " + want);
+            System.out.println(test + ": " + sentence + what + " answered " + got + ", due is " + want);
         }
     }
 
@@ -52,6 +58,15 @@ final class Check {
             base.emit(word);
         }
         return base.end();
+    }
+
+    /** Emits words until the open procedure has as many as are asked for: pushes and drops, so that none stays. */
+    static void fillUp(TriggerBase base, int from, int upTo) {
+        for (int place = from; place < upTo; place += 3) {
+            base.emit(Words.PUSH);
+            base.emit(7);
+            base.emit(Words.DROP);
+        }
     }
 
     /** Defines a procedure on a new object and calls it with plenty of fuel: what it returned. */
