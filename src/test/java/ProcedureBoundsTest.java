@@ -17,6 +17,7 @@ public final class ProcedureBoundsTest {
         noneIsOpen();
         itHasSixty();
         nextOneHasNone();
+        twelfthHasSixty();
         howManyAreThere();
         CHECK.finish();
     }
@@ -224,6 +225,26 @@ public final class ProcedureBoundsTest {
         CHECK.due("end of the next", base.end(), 0);
         returns(base, 0, 5);
         returns(base, 1, 6);
+    }
+
+    private static void twelfthHasSixty() {
+        CHECK.sentence("Terms", "at most 12, are rows of WORDS (ints), at most 60 each");
+        TriggerBase base = new TriggerBase();
+        for (int number = 0; number < 11; number++) {
+            defineReturn(base, number);
+        }
+        CHECK.due("the twelfth", base.begin(), 11);
+        Check.fillUp(base, 0, 57);
+        base.emit(Words.PUSH);
+        base.emit(MIN);
+        CHECK.due("its sixtieth word", base.emit(Words.RETURN), true);
+        CHECK.due("a word more", base.emit(Words.RETURN), false);
+        CHECK.due("end", base.end(), 0);
+        returns(base, 11, MIN);
+        CHECK.due("all were done", base.count(0), 40);
+        for (int number = 0; number < 11; number++) {
+            returns(base, number, number);
+        }
     }
 
     private static void howManyAreThere() {
