@@ -370,7 +370,8 @@ public final class TriggerBase {
             Arrays.fill(heights, NO_INSTRUCTION);
             int length = Math.min(library.length(procedure), WORDS);
             int place = 0;
-            while (place < length) {
+            // Each instruction has one word at least, so that as many looks as words are enough.
+            for (int looks = 0; looks < length && place < length; looks++) {
                 Instruction instruction = library.instructionAt(procedure, place);
                 int rule = ruleOfWords(library, procedure, place, instruction);
                 if (rule != NO_RULE) {

@@ -19,6 +19,7 @@ public final class FaceTest {
         CHECK.due("public and final", TriggerBase.class.getModifiers() == (Modifier.PUBLIC | Modifier.FINAL), true);
         constructors();
         methods();
+        namesOfPrivateMethods();
         fields();
         classesInside();
         CHECK.finish();
@@ -42,20 +43,36 @@ public final class FaceTest {
         CHECK.due("methods " + seen, seen.equals(FACE), true);
     }
 
+    private static void namesOfPrivateMethods() {
+        for (Method method : TriggerBase.class.getDeclaredMethods()) {
+            boolean isPrivate = Modifier.isPrivate(method.getModifiers());
+            CHECK.due(method.getName() + " is private and bears a public name", isPrivate && isOfFace(method), false);
+        }
+    }
+
+    private static boolean isOfFace(Method method) {
+        return FACE.stream().anyMatch(line -> line.contains(" " + method.getName() + "["));
+    }
+
     private static void fields() {
         for (Field field : TriggerBase.class.getDeclaredFields()) {
             CHECK.due(field.getName() + " is private", Modifier.isPrivate(field.getModifiers()), true);
+            CHECK.due(field.getName() + " is no static state", isStaticState(field), false);
         }
     }
 
     private static void classesInside() {
         for (Class<?> inside : TriggerBase.class.getDeclaredClasses()) {
             CHECK.due(inside + " is static", Modifier.isStatic(inside.getModifiers()), true);
-            CHECK.due(inside + " is hidden", Modifier.isPublic(inside.getModifiers()), false);
+            boolean isHidden = !Modifier.isPublic(inside.getModifiers()) && !Modifier.isProtected(inside.getModifiers());
+            CHECK.due(inside + " is hidden", isHidden, true);
             for (Field field : inside.getDeclaredFields()) {
-                boolean fixed = !Modifier.isStatic(field.getModifiers()) || Modifier.isFinal(field.getModifiers());
-                CHECK.due(inside + "." + field.getName() + " is no static state", fixed, true);
+                CHECK.due(inside + "." + field.getName() + " is no static state", isStaticState(field), false);
             }
         }
+    }
+
+    private static boolean isStaticState(Field field) {
+        return Modifier.isStatic(field.getModifiers()) && !Modifier.isFinal(field.getModifiers());
     }
 }
